@@ -32,6 +32,8 @@ public final class SteepAndLevelTest {
         due.asks(x, "18: steepPlaces()", 3, () -> x.steepPlaces());
         due.is("18: steepPlaces() of a new one", 0, new RingSeesaw().steepPlaces());
         due.is("18: steepPlaces() at the last", 1, Rings.of(0, 0, 0, 2).steepPlaces());
+        due.is("18: steepPlaces() round the place 0", 3, Rings.of(0, -9, 0, 0, -9).steepPlaces());
+        due.is("18: steepPlaces() round the last", 3, Rings.of(-9, 0, 0, -9, 0).steepPlaces());
     }
 
     private static void nextToTip() {
@@ -39,7 +41,9 @@ public final class SteepAndLevelTest {
         due.asks(x, "19: nextToTip()", 2, () -> x.nextToTip());
         due.is("19: nextToTip() at 0", 0, Rings.of(2, 0, 2, 0).nextToTip());
         due.is("19: nextToTip() at the last", 3, Rings.of(0, 0, 0, 2).nextToTip());
+        due.is("19: nextToTip() beside a low one", 1, Rings.of(-9, 0, 0, 0, 0).nextToTip());
         due.is("19: nextToTip() without any", -1, Rings.of(1, 0, 0, 0).nextToTip());
+        due.is("19: nextToTip() of likes", -1, Rings.of(-9, -9, -9, -9).nextToTip());
     }
 
     private static void tilt() {
@@ -66,6 +70,7 @@ public final class SteepAndLevelTest {
     private static void bestAxis() {
         RingSeesaw x = Rings.of(5, 1, 2, 9);
         due.asks(x, "22: bestAxis() of -8, -3, 8, 3", 1, () -> x.bestAxis());
+        due.is("22: bestAxis() of 3, -8, -3, 8", 0, Rings.of(9, 5, 1, 2).bestAxis());
         due.is("22: bestAxis() of 3 sides", 2, Rings.of(0, 1, 5).bestAxis());
         due.is("22: bestAxis() of likes", 0, new RingSeesaw().bestAxis());
         due.is("22: bestAxis() of two level ones", 1, Rings.of(2, 1, 2, 9).bestAxis());

@@ -136,6 +136,13 @@ public final class TargetsTest {
         even.tip(2, 30);
         even.tip(3, 40);
         due.is("28: fewestTips(0) between 2 and 30", 1 + 28 + 38, even.fewestTips(0));
+        for (int place = 0; place < 3; place++) {
+            RingSeesaw three = Rings.of(0, 0, 0);
+            three.keep();
+            three.tip(place, 7);
+            three.tip((place + 1) % 3, -4);
+            due.is("28: fewestTips(0) of 7, -4 and 0, from place " + place, 11, three.fewestTips(0));
+        }
         x.put(0, 999);
         due.is("28: fewestTips(0) that cannot be reached", -1, x.fewestTips(0));
         due.refuses(x, "28: fewestTips(1)", Rings.NO_INDEX, () -> x.fewestTips(1));
@@ -161,5 +168,13 @@ public final class TargetsTest {
         due.is("29: nearestTarget() at it", 3, x.nearestTarget());
         x.tip(0, 5);
         due.is("29: nearestTarget() of 1, 3 and 5 off", 1, x.nearestTarget());
+        RingSeesaw first = Rings.of(0, 0, 0);
+        first.keep();
+        first.tip(2, 4);
+        first.keep();
+        first.tip(2, -3);
+        due.is("29: nearestTarget() of 1 and 3 off", 0, first.nearestTarget());
+        first.tip(2, -1);
+        due.is("29: nearestTarget() of 0 and 4 off", 0, first.nearestTarget());
     }
 }

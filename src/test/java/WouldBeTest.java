@@ -76,6 +76,9 @@ public final class WouldBeTest {
                 Rings.of(-9, 0, 0, 9, 0, 0).bestPlace());
         due.is("33: bestPlace() of a good and a better one", 1, Rings.of(-9, 9, -9, 0, 0, 0).bestPlace());
         due.is("33: bestPlace() at the last", 4, Rings.of(0, 0, 0, 0, 9).bestPlace());
+        due.is("33: bestPlace() between two low ones", 5, Rings.of(-9, 0, 0, 0, -9, 0).bestPlace());
+        due.is("33: bestPlace() where the low one between is in the way", -1,
+                Rings.of(-8, -9, 0, 0, 0, -9).bestPlace());
         due.is("33: bestPlace() of likes", -1, new RingSeesaw().bestPlace());
         due.is("33: bestPlace() where it stays as it is", -1, Rings.of(9, 0, 0, 9, 0, 0).bestPlace());
         due.is("33: bestPlace() where it only grows", -1, Rings.of(1, 0, 0, 0).bestPlace());
@@ -126,6 +129,11 @@ public final class WouldBeTest {
         y.keep();
         y.tip(0, -9);
         due.asks(y, "36: digest()", digestOf(y), () -> y.digest());
+        RingSeesaw z = Rings.of(2, 0, 5);
+        z.keep();
+        z.put(1, 3);
+        due.is("36: placeFor(0) that is one", 1, z.placeFor(0));
+        due.asks(z, "36: digest() of it", digestOf(z), () -> z.digest());
         due.is("36: digest() does not stand still", false, x.digest() == y.digest());
     }
 
