@@ -45,6 +45,8 @@ public final class SteepAndLevelEdgesTest {
         due.is("steepPlaces() at first", 0, new RingSeesaw().steepPlaces());
         for (int places = 3; places <= 12; places++) {
             due.is("steepPlaces() of likes, " + places, 0, Rings.level(places, 999).steepPlaces());
+            // Low numbers all round: beyond the last place nothing stands that could be steep beside them.
+            due.is("steepPlaces() of likes below 0, " + places, 0, Rings.level(places, -999).steepPlaces());
             due.is("steepPlaces() of the place 0 of " + places, 1, Rings.with(places, 0, 2).steepPlaces());
             due.is("steepPlaces() of the last of " + places, 1, Rings.with(places, places - 1, 2).steepPlaces());
             due.is("steepPlaces() of none of " + places, 0, Rings.with(places, places - 1, 1).steepPlaces());
@@ -66,6 +68,12 @@ public final class SteepAndLevelEdgesTest {
         for (int places = 3; places <= 12; places++) {
             RingSeesaw x = Rings.with(places, places - 1, 1);
             due.asks(x, "nextToTip() without any of " + places, -1, () -> x.nextToTip());
+            due.is("nextToTip() of likes, " + places, -1, Rings.level(places, 999).nextToTip());
+            due.is("nextToTip() of likes below 0, " + places, -1, Rings.level(places, -999).nextToTip());
+            // The last place stands between two low ones, and so does, but in a ring of 3, the place 1.
+            RingSeesaw low = Rings.with(places, 0, -9);
+            low.put(places - 2, -9);
+            due.is("nextToTip() beside low ones at both ends of " + places, places == 3 ? 2 : 1, low.nextToTip());
             x.put(places - 1, 9);
             due.asks(x, "nextToTip() at the last of " + places, places - 1, () -> x.nextToTip());
             x.put(0, 9);

@@ -35,9 +35,9 @@ public final class TargetsEdgesTest {
                 x.put(last, -target);
                 x.keep();
             }
-            due.asks(x, "numberIn(0, 0) of " + places, 1099, () -> x.numberIn(0, 0));
+            due.is("numberIn(0, 0) of " + places, 1099, x.numberIn(0, 0));
             due.asks(x, "numberIn(0, last) of " + places, -1049, () -> x.numberIn(0, last));
-            due.asks(x, "numberIn(5, 0) of " + places, 5, () -> x.numberIn(5, 0));
+            due.is("numberIn(5, 0) of " + places, 5, x.numberIn(5, 0));
             due.asks(x, "numberIn(5, last) of " + places, -5, () -> x.numberIn(5, last));
         }
     }
@@ -191,6 +191,12 @@ public final class TargetsEdgesTest {
             due.asks(x, "fewestTips(0) of the place 0 of " + places, 50, () -> x.fewestTips(0));
             x.tip(places - 1, -1);
             due.asks(x, "fewestTips(0) of both ends of " + places, 51, () -> x.fewestTips(0));
+            RingSeesaw sides = Rings.with(places, 0, 0);
+            sides.keep();
+            sides.tip(places - 1, 50);
+            sides.tip(1, -50);
+            due.asks(sides, "fewestTips(0) of both sides of the place 0 of " + places, 100,
+                    () -> sides.fewestTips(0));
         }
         RingSeesaw far = Rings.of(999, 0, 0, 0, -999, 0, 0, 0, 0, 0, 0, 0);
         far.keep();

@@ -9,6 +9,7 @@ public final class WouldBeEdgesTest {
     public static void main(String[] args) {
         stepsToRest();
         spreadAtRest();
+        spreadWithTimes();
         spreadWithReturns();
         spreadWithThrowsIndex();
         spreadWithThrowsArgument();
@@ -61,6 +62,18 @@ public final class WouldBeEdgesTest {
         due.asks(twelve, "spreadAtRest() of 300 steps from the last of 12", 23, () -> twelve.spreadAtRest());
         RingSeesaw high = Rings.with(12, 11, 999);
         due.asks(high, "spreadAtRest() of many more steps", -1, () -> high.spreadAtRest());
+    }
+
+    private static void spreadWithTimes() {
+        due.sentence("32", "times: how often; less than 0: back");
+        RingSeesaw x = Rings.of(8, 0, 0, 0);
+        due.asks(x, "spreadWith(0, 0)", 8, () -> x.spreadWith(0, 0));
+        due.asks(x, "spreadWith(0, 1)", 6, () -> x.spreadWith(0, 1));
+        due.asks(x, "spreadWith(0, -1)", 10 + 1, () -> x.spreadWith(0, -1));
+        due.asks(x, "spreadWith(0, 50)", 50 + 92, () -> x.spreadWith(0, 50));
+        due.asks(x, "spreadWith(0, -50)", 108 + 50, () -> x.spreadWith(0, -50));
+        due.asks(x, "spreadWith(3, 50) beside it", 58 + 100, () -> x.spreadWith(3, 50));
+        due.asks(x, "spreadWith(3, -50) beside it", 100 + 50, () -> x.spreadWith(3, -50));
     }
 
     private static void spreadWithReturns() {
